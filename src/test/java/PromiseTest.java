@@ -745,12 +745,20 @@ public final class PromiseTest {
             page = 31 * page + count;
         }
         due.is("25 of a page", page, x.digest());
-        // kind, deep, lean, moss, closed, in force, when, sorts, try, odds; force, order, race, race, rain; page; counts
+        // of each clause: kind, deep, lean, moss, closed, in force, when, sorts, try, odds above and below;
+        // then force, order, race, race, rain; page; counts
         x = Due.read("d2-;03");
         x.week();
         Due.write(x, "~");
         // odds of 2 weeks: growth 0, 0, 1, 2 in each makes 2 or more in 8 of 16
-        int[] numbers = {1, 2, -1, 0, 0, 0, 1, 31, 3, 1, 2, 1, 1, 1, 2, 3, '~', 1, 2, 1, 0, 0, 0, 0, 0, 1, 1, 0};
+        digest(x, 1, 2, -1, 0, 0, 0, 1, 31, 3, 1, 2, 1, 1, 1, 2, 3, '~', 1, 2, 1, 0, 0, 0, 0, 0, 1, 1, 0);
+        x = Due.read("w2-,c10;1011");
+        Due.write(x, "~c");
+        digest(x, 4, 2, -1, 0, 0, 0, 3, 31, 3, 9, 16, 0, 1, 0, 0, 0, 0, 4, 31, 3, 0, 1,
+                1, 12, 1, 1, 1, '~', 'c', 2, 4, 0, 0, 0, 0, 0, 0, 2, 1, 0);
+    }
+
+    private static void digest(MossWall x, int... numbers) {
         long h = 1367;
         for (int number : numbers) {
             h = 31 * h + number;
