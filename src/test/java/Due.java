@@ -3,9 +3,15 @@ final class Due {
     private final String name;
     private int passed = 0;
     private int failed = 0;
+    private String section = "";
 
     Due(String name) {
         this.name = name;
+    }
+
+    /** What follows stands under this section of the document. */
+    void in(String section) {
+        this.section = section + ": ";
     }
 
     void is(String what, long want, long got) {
@@ -13,12 +19,16 @@ final class Due {
             passed++;
         } else {
             failed++;
-            System.out.println(name + ": " + what + " answered " + got + ", due is " + want);
+            System.out.println(name + ": " + section + what + " answered " + got + ", due is " + want);
         }
     }
 
     void holds(String what, boolean so) {
         is(what, 1, so ? 1 : 0);
+    }
+
+    int all() {
+        return passed + failed;
     }
 
     void end() {
