@@ -225,6 +225,13 @@ final class AllEdges {
         Edges.is("the next week's rain", 1, x.rain(3));
     }
 
+    static void promise25_forceIsOfThreeWeeks() {
+        // closed behind 2, 3 and 4 weeks, so that force() of 2 and of 4 would tell another number
+        asCallsTell(Due.read("c2-,c3-,c4-;1"));
+        asCallsTell(Due.read("c3-;1"));
+        asCallsTell(Due.read("c4-;1"));
+    }
+
     static void promise25_itLeavesAll() {
         MossWall x = Refusals.busy();
         long first = x.digest();

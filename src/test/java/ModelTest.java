@@ -2,7 +2,7 @@ import java.util.Random;
 
 /** Drawn runs of calls on MossWall and on Model: each answer of the one is due from the other. */
 public final class ModelTest {
-    private static final int RUNS = 400, CALLS = 512;
+    private static final int RUNS = 400, CALLS = 512, LONGEST_STEP = 70;
     private static final int[] ODD = {-1, -2, 7, 9, 10, 41, 61, 100, Integer.MIN_VALUE, Integer.MAX_VALUE};
 
     private final Due due;
@@ -31,7 +31,7 @@ public final class ModelTest {
         if (random.nextInt(8) != 0) {
             writeWall();
         }
-        while (calls < CALLS - 40) {
+        while (calls < CALLS - LONGEST_STEP) {
             step();
         }
     }

@@ -112,13 +112,13 @@ public final class RulesTest {
         due.holds("the source is of signs 1 to 127", source.chars().allMatch(sign -> sign >= 1 && sign <= 127));
     }
 
-    /** All objects of a run live in one room of 7.3 million elements: 20 rounds of every call stay far below. */
+    /** All objects of a run live in one room of 7.3 million elements: a dozen rounds of every call stay far below. */
     private static void roomOfCalls() {
         com.sun.management.ThreadMXBean bean = (com.sun.management.ThreadMXBean) ManagementFactory.getThreadMXBean();
         MossWall wall = Due.read("d9-,w90,s91,f92,c93,d94;00000001");
         everyCall(wall);
         long before = bean.getCurrentThreadAllocatedBytes();
-        for (int time = 0; time < 20; time++) {
+        for (int time = 0; time < 12; time++) {
             everyCall(wall);
         }
         long made = bean.getCurrentThreadAllocatedBytes() - before;

@@ -124,6 +124,9 @@ final class WallEdges {
     static void promise4_ofAFullPage() {
         String text = "c1-,d20,s31,f42,w53,c94;01230123";
         Edges.is("behind a whole wall", 32, Edges.faultOf(text + "0123"));
+        Edges.noWall(text + "0123", 32);
+        Edges.noWall("c".repeat(36), 1);
+        Edges.noWall("c1-," + "-".repeat(32), 4);
         Edges.is("the last that fits is not the last", 12, Edges.faultOf("c1-;012301230123012301230123012301230123"));
     }
 

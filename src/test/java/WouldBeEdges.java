@@ -157,6 +157,15 @@ final class WouldBeEdges {
         need("c1-,c1-,c1-,c1-,c1-,c5-;1", 32, 1, 4, 6666);
     }
 
+    static void terms_needIsFromTheNextWeekOn() {
+        // behind the first week there are 3 of 7, and the next rains are 0, 3, 0, 3
+        MossWall x = Edges.gone("c7-;30", 1);
+        int[] which = {1111, 1111, 1, 1, 0};
+        for (int weeks = 0; weeks < which.length; weeks++) {
+            Edges.is("behind " + weeks, which[weeks], x.need(1, weeks, 1));
+        }
+    }
+
     static void terms_needIs0ForNoneWanted() {
         need("c9-;0", 0, 0, 0, 0);
         need("c9-;0", 0, 40, 0, 0);
