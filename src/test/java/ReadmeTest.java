@@ -58,7 +58,8 @@ public final class ReadmeTest {
                 takeJava(line, group);
             } else {
                 group = line.startsWith("#") ? line.replaceFirst("#+ ", "") : group;
-                due.holds("no call with its numbers stands in prose, where nothing runs it: " + line, !line.matches(".*\\b[a-z]+\\(-?\\d.*"));
+                due.holds("no call with its numbers stands in prose, where nothing runs it: " + line,
+                        !line.matches(".*\\b[a-z]+\\(-?\\d.*"));
             }
         }
     }
